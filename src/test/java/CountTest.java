@@ -161,6 +161,12 @@ public final class CountTest {
         dueBySize("12: above or below", counts(x, 0), 1, 1);
         due.is("18: below comes, above goes", x.pivot(0, 0), 0);
         dueBySize("19: the least", firsts(x, 0), 0, 1);
+        x.kind(1, 0);
+        x.kind(0, 1);
+        x.kind(2, 2);
+        x.twin(0, 2, true);
+        dueBySize("12: but with its WAY", counts(x, 0), 1, 0);
+        dueBySize("19: but with its WAY", firsts(x, 0), 0, NONE);
     }
 
     private static void rowOfPlaces() {

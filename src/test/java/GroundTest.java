@@ -114,6 +114,15 @@ public final class GroundTest {
         due.is("3: BAD is ahead of STATE", x.kind(0, 5), BAD);
         due.is("3: it is CHANCE still", x.about(0, 0), 2);
         due.is("3: status is of sheets alone", x.status(), 0);
+        x.ground(5, 5, false);
+        x.kind(39, 2);
+        x.kind(38, 2);
+        x.twin(0, 39, true);
+        due.is("3: the last one is the ELDER of the first", x.kind(39, 1), STATE);
+        due.is("3: the last but one is not", x.kind(38, 1), 2);
+        x.kind(1, 2);
+        x.twin(38, 1, false);
+        due.is("3: an ELDER of a later one", x.kind(1, 0), STATE);
 
         x.ground(4, 4, true);
         for (int thing = 0; thing < 12; thing++) {
@@ -219,6 +228,10 @@ public final class GroundTest {
         for (int what = 0; what < told.length; what++) {
             due.is("6: told " + what, x.told(what), told[what]);
         }
+        x.ground(5, 5, false);
+        x.kind(0, 2);
+        x.twin(39, 0, true);
+        due.is("6: forty, the last one AGAINST", x.told(3) * 100 + x.told(4) * 10 + x.told(5), 4011);
         due.is("6: -1", x.told(-1), BAD);
         due.is("6: 6", x.told(6), BAD);
         due.is("6: least", x.told(Integer.MIN_VALUE), BAD);

@@ -1,7 +1,10 @@
 import java.util.Arrays;
 import java.util.Random;
 
-/** Runs of up to 512 calls, made by a generator with a fixed seed, compared with the model call by call. */
+/**
+ * Runs made by a generator with a fixed seed, compared with the model call by call. Some go on beyond
+ * the 512 calls that the document promises: the class has no end of its own.
+ */
 public final class ModelTest {
     private static final Due due = new Due("ModelTest");
     private static final int RUNS = 400;
@@ -18,8 +21,7 @@ public final class ModelTest {
             real = new OpenGrounds();
             model = new Model();
             mostChances = run % 40 == 0 ? 12 : 1 + random.nextInt(6);
-            int calls = 512;
-            for (int i = 0; i < calls; i++) {
+            for (int i = 0; i < 512; i++) {
                 oneCall();
             }
         }

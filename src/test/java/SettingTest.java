@@ -219,6 +219,8 @@ public final class SettingTest {
         due.is("11: greatest of none", x.heaps(0, 1), 0);
         due.is("10: not OPEN", x.heap(0, 0), NONE);
         due.is("11: over the corner they do not hang together", x.heaps(6, 0) * 10 + x.heaps(6, 1), 21);
+        due.is("11: the first alone", x.heaps(1, 0) * 10 + x.heaps(1, 1), 11);
+        due.is("11: the last alone", x.heaps(8, 0) * 10 + x.heaps(8, 1), 11);
         due.is("10: 2 alone", x.heap(6, 2), 2);
         due.is("10: 3 with 1", x.heap(10, 3), 1);
         due.is("10: 1 with 2 by 3", x.heap(14, 2), 1);
