@@ -129,7 +129,10 @@ public final class CountEdgeTest {
         }
     }
 
-    /** Promise 12, "COUNTS are by SIZE k: in how many SETTINGS of that SIZE something holds.": all of twelve, by SIZE. */
+    /**
+     * Promise 12, "COUNTS are by SIZE k: in how many SETTINGS of that SIZE something holds.": all of twelve, by
+     * SIZE.
+     */
     private static void countOfTwelve() {
         OpenGrounds always = mixed(5, 5, false, 1, 12);
         OpenGrounds once = series();
@@ -143,7 +146,10 @@ public final class CountEdgeTest {
         due.is("12: all but one", ring.count(2, 11), 12);
     }
 
-    /** Promise 12, Terms: "(or are one OPEN PLACE)", "ACROSS 0, 1: both kinds of THROUGH; one at least.": one row, one column. */
+    /**
+     * Promise 12, Terms: "(or are one OPEN PLACE)", "ACROSS 0, 1: both kinds of THROUGH; one at least.": one row,
+     * one column.
+     */
     private static void countOneRowAndColumn() {
         OpenGrounds row = mixed(1, 5, true, 1, 5);
         OpenGrounds column = mixed(5, 1, true, 1, 5);
@@ -161,7 +167,10 @@ public final class CountEdgeTest {
         }
     }
 
-    /** Promise 12, Terms: "THROUGH 0: a PLACE of the first column and one of the last hang together": nothing is OPEN. */
+    /**
+     * Promise 12, Terms: "THROUGH 0: a PLACE of the first column and one of the last hang together": nothing is
+     * OPEN.
+     */
     private static void countNoneOpen() {
         for (int way = 0; way <= 3; way++) {
             due.is("12: no PLACE, way " + way, mixed(5, 5, true, 0, 0).count(way, 0), 0);
@@ -464,7 +473,10 @@ public final class CountEdgeTest {
         }
     }
 
-    /** Promise 17, "p^k (q - p)^(m - k)": of twelve in a row all must have their WAY; p 0 and p q are no chance and all. */
+    /**
+     * Promise 17, "p^k (q - p)^(m - k)": of twelve in a row all must have their WAY; p 0 and p q are no chance and
+     * all.
+     */
     private static void chanceOneWay() {
         OpenGrounds x = series();
         for (int p = 0; p <= 9; p++) {
@@ -532,7 +544,10 @@ public final class CountEdgeTest {
         due.is("18: one", mixed(1, 1, true, 1, 1).pivot(0, 0), 1);
     }
 
-    /** Promise 18: "are not any more, if CHANCE one i of them alone loses its WAY": of twelve, the first and the last too. */
+    /**
+     * Promise 18: "are not any more, if CHANCE one i of them alone loses its WAY": of twelve, the first and the
+     * last too.
+     */
     private static void pivotOfTwelve() {
         OpenGrounds once = series();
         OpenGrounds always = mixed(5, 5, false, 1, 12);
@@ -606,9 +621,22 @@ public final class CountEdgeTest {
         for (int way = 0; way <= 3; way++) {
             due.is("19: one SHUT PLACE, way " + way, mixed(1, 1, true, 0, 0).first(way, 0), NONE);
         }
+        OpenGrounds against = fresh(1, 3, false);
+        against.kind(0, 2);
+        against.twin(1, 0, true);
+        due.is("19: never both", against.first(0, 0), NONE);
+        OpenGrounds without = fresh(2, 2, false);
+        without.kind(2, 2);
+        without.twin(0, 2, true);
+        without.kind(1, 0);
+        due.is("19: THROUGH without its WAY", without.first(0, 0), 0);
+        due.is("19: but not with it, and 2^m is no SETTING", without.first(0, 1), NONE);
     }
 
-    /** Promise 19: "The least SETTING of SIZE k": where all are THROUGH it is 2^k - 1; the last CHANCE one alone, 2^11. */
+    /**
+     * Promise 19: "The least SETTING of SIZE k": where all are THROUGH it is 2^k - 1; the last CHANCE one alone,
+     * 2^11.
+     */
     private static void firstLeastAndGreatest() {
         OpenGrounds always = mixed(5, 5, false, 1, 12);
         for (int k = 0; k <= 12; k++) {

@@ -6,8 +6,8 @@ import java.util.function.ToLongFunction;
 
 /**
  * One call in one scene. A scene is a run of calls that can be played on as many new objects as one
- * likes: so all that the class can be asked is asked of an object with the call and of one without it,
- * each view on objects of its own, for asking changes them and an object is good for 512 calls.
+ * likes: so an object with the call and one without it are asked the same about the ground, settings, counts
+ * and sheets, each view on objects of its own, for asking changes them and an object is good for 512 calls.
  */
 final class Edge {
     private static final int BAD = -1, CAST = -13, SIZE = -15;
@@ -82,7 +82,8 @@ final class Edge {
         }
     }
 
-    private void same(String call, String what, ToLongFunction<OpenGrounds> asked, Function<OpenGrounds, List<Long>> view) {
+    private void same(String call, String what, ToLongFunction<OpenGrounds> asked,
+            Function<OpenGrounds, List<Long>> view) {
         OpenGrounds with = new OpenGrounds();
         scene.accept(with);
         asked.applyAsLong(with);

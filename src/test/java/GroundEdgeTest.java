@@ -98,7 +98,10 @@ public final class GroundEdgeTest {
         }
     }
 
-    /** Promise 2, Terms: "A GROUND has ROWS and COLUMNS of PLACES (1 .." "5 each; 2 and 2 at first)": the COLUMNS. BAD. */
+    /**
+     * Promise 2, Terms: "A GROUND has ROWS and COLUMNS of PLACES (1 .." "5 each; 2 and 2 at first)": the COLUMNS.
+     * BAD.
+     */
     private static void columnsOneToFive() {
         for (boolean ofPlaces : BOTH) {
             OpenGrounds x = new OpenGrounds();
@@ -155,7 +158,10 @@ public final class GroundEdgeTest {
         due.is("10: its PLACE is open", x.heap(0, 0), 0);
     }
 
-    /** Promise 2: "A new GROUND (ofPlaces: OF PLACES), all THINGS SURE": from as many CHANCE ones and TWINS as may be. */
+    /**
+     * Promise 2: "A new GROUND (ofPlaces: OF PLACES), all THINGS SURE": from as many CHANCE ones and TWINS as may
+     * be.
+     */
     private static void newGroundIsAllSure() {
         for (boolean ofPlaces : BOTH) {
             OpenGrounds x = new OpenGrounds();
@@ -178,7 +184,10 @@ public final class GroundEdgeTest {
         }
     }
 
-    /** Promise 2: "A new GROUND (ofPlaces: OF PLACES), all THINGS SURE": what lay beyond a small one does not come back. */
+    /**
+     * Promise 2: "A new GROUND (ofPlaces: OF PLACES), all THINGS SURE": what lay beyond a small one does not come
+     * back.
+     */
     private static void newGroundOfOtherSize() {
         OpenGrounds x = fresh(5, 5, false);
         x.kind(39, 2);
@@ -242,6 +251,9 @@ public final class GroundEdgeTest {
                 due.is("3: from " + was + " to " + kind, x.kind(ofKind[was], kind), was);
                 due.is("3: it is " + kind, x.about(ofKind[was], 0), kind);
                 due.is("3: without ELDER", x.about(ofKind[was], 1), NONE);
+                int last = (1 << x.told(4)) - 1;
+                due.is("3: now " + kind + ", by the least SETTING", x.opens(ofKind[was], 0), kind == 1 ? 1 : 0);
+                due.is("3: now " + kind + ", by the greatest SETTING", x.opens(ofKind[was], last), kind == 0 ? 0 : 1);
             }
         }
     }
@@ -432,7 +444,10 @@ public final class GroundEdgeTest {
         }
     }
 
-    /** Promise 4, Terms: "TWIN and AGAINST have an ELDER, a THING that is a CHANCE one.": one ELDER of all the others. */
+    /**
+     * Promise 4, Terms: "TWIN and AGAINST have an ELDER, a THING that is a CHANCE one.": one ELDER of all the
+     * others.
+     */
     private static void twinOfAllOthers() {
         OpenGrounds x = fresh(5, 5, false);
         x.kind(39, 2);
@@ -458,7 +473,10 @@ public final class GroundEdgeTest {
 
     // ---- promise 5
 
-    /** Promise 5: "Of a THING: 0 KIND, 1 ELDER (NONE), 2 its number as a CHANCE one (NONE), 3 and 4 the PLACES": 0 .. 4. */
+    /**
+     * Promise 5: "Of a THING: 0 KIND, 1 ELDER (NONE), 2 its number as a CHANCE one (NONE), 3 and 4 the PLACES": 0
+     * .. 4.
+     */
     private static void aboutWhat() {
         OpenGrounds x = new OpenGrounds();
         Scenes.roads(x);
@@ -548,7 +566,10 @@ public final class GroundEdgeTest {
         }
     }
 
-    /** Promise 5: "3 and 4 the PLACES of a ROAD (of a PLACE it, both)": every PLACE, the first and the last among them. */
+    /**
+     * Promise 5: "3 and 4 the PLACES of a ROAD (of a PLACE it, both)": every PLACE, the first and the last among
+     * them.
+     */
     private static void aboutOnePlace() {
         OpenGrounds one = fresh(1, 1, true);
         due.is("5: the only PLACE", one.about(0, 3) * 100 + one.about(0, 4), 0);
@@ -560,7 +581,10 @@ public final class GroundEdgeTest {
 
     // ---- promise 6
 
-    /** Promise 6: "0 ROWS, 1 COLUMNS, 2 whether it is OF PLACES, 3 THINGS, 4 CHANCE ones, 5 TWINS and AGAINST ones. BAD." */
+    /**
+     * Promise 6: "0 ROWS, 1 COLUMNS, 2 whether it is OF PLACES, 3 THINGS, 4 CHANCE ones, 5 TWINS and AGAINST ones.
+     * BAD."
+     */
     private static void toldWhat() {
         OpenGrounds x = new OpenGrounds();
         Scenes.places(x);

@@ -1,3 +1,5 @@
+import java.util.Arrays;
+
 /** The boundary cases of promises 24 and 26, each test with the sentence of the document that it holds. */
 public final class ReadEdgeTest {
     private static final Due due = new Due("ReadEdgeTest");
@@ -58,7 +60,7 @@ public final class ReadEdgeTest {
 
     private static int[] twos(int n) {
         int[] numbers = new int[n];
-        java.util.Arrays.fill(numbers, 2);
+        Arrays.fill(numbers, 2);
         return numbers;
     }
 
@@ -89,7 +91,10 @@ public final class ReadEdgeTest {
         }
     }
 
-    /** Promise 24: "tells that by status(): NULL, INDEX", by Terms "INDEX (no such ROW": beside the first and the last. */
+    /**
+     * Promise 24: "tells that by status(): NULL, INDEX", by Terms "INDEX (no such ROW": beside the first and the
+     * last.
+     */
     private static void readNoRow() {
         for (int r : Edge.outside(0, 3)) {
             sheets.ends("24: read(0, " + r + ")", x -> x.read(0, r), 0, INDEX);
@@ -149,7 +154,10 @@ public final class ReadEdgeTest {
         kindsAre("one number", y, 0, 1, 1, 1);
     }
 
-    /** Promise 24: "It ends with the ROW, or THINGS": as long as the THINGS, one longer, where the one more is no KIND. */
+    /**
+     * Promise 24: "It ends with the ROW, or THINGS": as long as the THINGS, one longer, where the one more is no
+     * KIND.
+     */
     private static void readEndsWithThings() {
         OpenGrounds x = withRow(2, 2, false, 0, 2, 0, 2);
         reads("as long", x, 4, 0);
@@ -177,7 +185,10 @@ public final class ReadEdgeTest {
         due.is("24: none", y.told(4), 0);
     }
 
-    /** Promise 24: "or at what is refused (what came ahead stays), and tells that by status(): NULL, INDEX, BAD": no KIND 0 .. 2. */
+    /**
+     * Promise 24: "or at what is refused (what came ahead stays), and tells that by status(): NULL, INDEX, BAD": no
+     * KIND 0 .. 2.
+     */
     private static void readNoKind() {
         for (int none : Edge.outside(0, 2)) {
             OpenGrounds x = withRow(2, 2, false, none, 0, 0, 0);
@@ -194,7 +205,10 @@ public final class ReadEdgeTest {
         reads("an AGAINST one's KIND", withRow(2, 2, false, 4), 0, BAD);
     }
 
-    /** Promise 24: "the KINDS that a ROW tells": of BYTES, where 255 is -1 and 256 is 0 (promise 22, "as Java casts it"). */
+    /**
+     * Promise 24: "the KINDS that a ROW tells": of BYTES, where 255 is -1 and 256 is 0 (promise 22, "as Java casts
+     * it").
+     */
     private static void readNoKindByte() {
         OpenGrounds x = new OpenGrounds();
         x.sheet(0, BYTES, 1);
@@ -258,7 +272,10 @@ public final class ReadEdgeTest {
         kindsAre("freed by one of two", y, 1, 1, 2, 3);
     }
 
-    /** Promise 24, Terms: "the first one here: BAD", then STATE, FULL: an ELDER, or a 13th, that would become of no KIND. */
+    /**
+     * Promise 24, Terms: "the first one here: BAD", then STATE, FULL: an ELDER, or a 13th, that would become of no
+     * KIND.
+     */
     private static void readBadFirst() {
         OpenGrounds x = withRow(2, 2, false, 3);
         x.kind(0, 2);
@@ -350,7 +367,10 @@ public final class ReadEdgeTest {
         due.is("26: after another call that is refused", x.status(), 0);
     }
 
-    /** Promise 26: "What the latest sheet(), row(), put(), copy(), read() was refused by, or ended at; 0.": each follows the one before. */
+    /**
+     * Promise 26: "What the latest sheet(), row(), put(), copy(), read() was refused by, or ended at; 0.": each
+     * follows the one before.
+     */
     private static void statusOfTheLatest() {
         OpenGrounds x = new OpenGrounds();
         x.sheet(0, INTS, -1);
@@ -378,7 +398,10 @@ public final class ReadEdgeTest {
         due.is("26: once more", x.status(), 0);
     }
 
-    /** Promise 26: "What the latest sheet(), row(), put(), copy(), read() was refused by": no other call changes it, done or refused. */
+    /**
+     * Promise 26: "What the latest sheet(), row(), put(), copy(), read() was refused by": no other call changes it,
+     * done or refused.
+     */
     private static void statusOfOtherCalls() {
         sheets.leaves("26: status()", x -> x.status(), SIZE);
         sheets.leaves("26: trace()", x -> x.trace(), 11111);

@@ -1,4 +1,7 @@
-/** The boundary cases of one setting: promises 7 to 11 and 25, each test with the sentence of the document that it holds. */
+/**
+ * The boundary cases of one setting: promises 7 to 11 and 25, each test with the sentence of the document that it
+ * holds.
+ */
 public final class SettingEdgeTest {
     private static final Due due = new Due("SettingEdgeTest");
     private static final int BAD = -1, STATE = -2, NONE = -9;
@@ -79,7 +82,10 @@ public final class SettingEdgeTest {
 
     // ---- settings
 
-    /** Promises 7 to 11, Terms: "of m CHANCE ones 0 .. 2^m - 1": the last SETTING and the first that is none, for each m. */
+    /**
+     * Promises 7 to 11, Terms: "of m CHANCE ones 0 .. 2^m - 1": the last SETTING and the first that is none, for
+     * each m.
+     */
     private static void settingsOfEachNumber() {
         for (int m = 0; m <= 12; m++) {
             OpenGrounds x = fresh(5, 5, false);
@@ -122,7 +128,10 @@ public final class SettingEdgeTest {
         return x;
     }
 
-    /** Promise 7, Terms: "its bit i tells whether CHANCE one i has its WAY": each bit alone, from the first to the twelfth. */
+    /**
+     * Promise 7, Terms: "its bit i tells whether CHANCE one i has its WAY": each bit alone, from the first to the
+     * twelfth.
+     */
     private static void settingBits() {
         OpenGrounds x = twelve();
         for (int i = 0; i < 12; i++) {
@@ -199,7 +208,10 @@ public final class SettingEdgeTest {
         }
     }
 
-    /** Promise 25, Terms: "come to THE TRACE as often as opens() asks": no other call does, a refused opens() neither. */
+    /**
+     * Promise 25, Terms: "come to THE TRACE as often as opens() asks": no other call does, a refused opens()
+     * neither.
+     */
     private static void traceOfOpensAlone() {
         roads.leaves("25: through()", x -> x.through(7, 0), 1);
         roads.leaves("25: wall()", x -> x.wall(7, 0), 0);
@@ -220,7 +232,10 @@ public final class SettingEdgeTest {
         due.is("25: a new GROUND leaves it", x.trace(), 11111);
     }
 
-    /** Promise 25, "An object is used for at most 512 calls after it has been made": the greatest TRACE, by the 512th. */
+    /**
+     * Promise 25, "An object is used for at most 512 calls after it has been made": the greatest TRACE, by the
+     * 512th.
+     */
     private static void traceOf512Calls() {
         OpenGrounds x = new OpenGrounds();
         x.kind(0, 2);
@@ -282,7 +297,10 @@ public final class SettingEdgeTest {
         }
     }
 
-    /** Promise 8, Terms: "THROUGH 0: a PLACE of the first column and one of the last hang together": one column is both. */
+    /**
+     * Promise 8, Terms: "THROUGH 0: a PLACE of the first column and one of the last hang together": one column is
+     * both.
+     */
     private static void throughOneColumn() {
         due.is("8: all ROADS", throughBoth(fresh(5, 1, false), 0), 11);
         due.is("8: no ROAD", throughBoth(openOnly(5, 1, false), 0), 10);
@@ -295,7 +313,10 @@ public final class SettingEdgeTest {
         }
     }
 
-    /** Promise 8, Terms: "a PLACE of the first column and one of the last hang together": from the last corner to the first. */
+    /**
+     * Promise 8, Terms: "a PLACE of the first column and one of the last hang together": from the last corner to
+     * the first.
+     */
     private static void throughFromCornerToCorner() {
         int[] stair = {20, 21, 16, 17, 12, 13, 8, 9, 4};
         due.is("8: a stair", throughBoth(openOnly(5, 5, true, stair), 0), 11);
@@ -372,7 +393,10 @@ public final class SettingEdgeTest {
         due.is("9: one PLACE", wallBoth(fresh(1, 1, false)), 0);
     }
 
-    /** Promise 9, Terms: "from some (0, c) to some (ROWS, c).": one row, where one ROAD that is not OPEN is a WALL 0. */
+    /**
+     * Promise 9, Terms: "from some (0, c) to some (ROWS, c).": one row, where one ROAD that is not OPEN is a WALL
+     * 0.
+     */
     private static void wallOfOneRow() {
         due.is("9: all SURE", wallBoth(fresh(1, 5, false)), 0);
         due.is("9: all SHUT", wallBoth(openOnly(1, 5, false)), 10);
@@ -424,7 +448,10 @@ public final class SettingEdgeTest {
         due.is("9: the middle row, upwards", wallBoth(shutOnly(3, 2, 4, 5, 1)), 1);
     }
 
-    /** Promise 9, Terms: "from above the ground to below it one goes between its PLACES over ROADS that are not OPEN": up too. */
+    /**
+     * Promise 9, Terms: "from above the ground to below it one goes between its PLACES over ROADS that are not
+     * OPEN": up too.
+     */
     private static void wallGoesUpToo() {
         int[] winding = {0, 3, 14, 4, 11, 5, 8};
         due.is("9: winding", wallBoth(shutOnly(3, 4, winding)), 10);
@@ -528,7 +555,10 @@ public final class SettingEdgeTest {
         due.is("11: one PLACE, OF ROADS", fresh(1, 1, false).heaps(0, 0) * 10 + fresh(1, 1, false).heaps(0, 1), 11);
     }
 
-    /** Promise 11: "How many HEAPS there are": 25 of one PLACE, one of 25, 13 that touch by corners, the last PLACE alone. */
+    /**
+     * Promise 11: "How many HEAPS there are": 25 of one PLACE, one of 25, 13 that touch by corners, the last PLACE
+     * alone.
+     */
     private static void heapsMost() {
         OpenGrounds apart = openOnly(5, 5, false);
         due.is("11: 25 of one", apart.heaps(0, 0) * 100 + apart.heaps(0, 1), 2501);

@@ -5,7 +5,10 @@ public final class SheetEdgeTest {
     private static final int BYTES = 0, INTS = 1;
     private static final int LEAST = Integer.MIN_VALUE, GREATEST = Integer.MAX_VALUE;
 
-    /** SHEET 0 of BYTES (ROW 0 of 40, 1 of none, 2 MISSING, 3 of three), 1 of INTS (ROW 0 of five, 1 MISSING), no SHEET 2. */
+    /**
+     * SHEET 0 of BYTES (ROW 0 of 40, 1 of none, 2 MISSING, 3 of three), 1 of INTS (ROW 0 of five, 1 MISSING), no
+     * SHEET 2.
+     */
     private static final Edge sheets = new Edge(due, Scenes::roads);
     /** SHEET 0 as above, 2 of BYTES (ROW 0 MISSING, 1 of four), no SHEET 1. */
     private static final Edge ofBytes = new Edge(due, SheetEdgeTest::twoOfBytes);
@@ -167,7 +170,10 @@ public final class SheetEdgeTest {
         }
     }
 
-    /** Promise 20: "A SHEET gets n (4 at most) ROWS of a SORT, all MISSING": one that was there already, the others stay. */
+    /**
+     * Promise 20: "A SHEET gets n (4 at most) ROWS of a SORT, all MISSING": one that was there already, the others
+     * stay.
+     */
     private static void sheetAnew() {
         OpenGrounds x = played();
         due.is("20: anew", x.sheet(0, INTS, 1), 1);
@@ -233,7 +239,10 @@ public final class SheetEdgeTest {
         }
     }
 
-    /** Promise 21: "SIZE (the last of these).", by Terms "SIZE (below 0)": a ROW that is there stays, one that is not neither comes. */
+    /**
+     * Promise 21: "SIZE (the last of these).", by Terms "SIZE (below 0)": a ROW that is there stays, one that is
+     * not neither comes.
+     */
     private static void rowBelowZero() {
         for (int n : new int[] {-1, -2, -40, LEAST}) {
             sheets.refusedSheet("21: row(0, 3, " + n + ")", x -> x.row(0, 3, n), SIZE);
@@ -289,7 +298,10 @@ public final class SheetEdgeTest {
         }
     }
 
-    /** Promise 21, "An object is used for at most 512 calls after it has been made": the 512th makes a ROW as the others do. */
+    /**
+     * Promise 21, "An object is used for at most 512 calls after it has been made": the 512th makes a ROW as the
+     * others do.
+     */
     private static void rowsFor512Calls() {
         OpenGrounds x = new OpenGrounds();
         x.sheet(0, INTS, 4);
@@ -522,7 +534,10 @@ public final class SheetEdgeTest {
         }
     }
 
-    /** Promise 23: "INDEX: the numbers are not there": one too many for the first ROW, for the other one: not even a part comes. */
+    /**
+     * Promise 23: "INDEX: the numbers are not there": one too many for the first ROW, for the other one: not even a
+     * part comes.
+     */
     private static void copyTooMany() {
         ofBytes.refusedSheet("23: four of three", x -> x.copy(0, 3, 0, 2, 1, 0, 4), INDEX);
         ofBytes.refusedSheet("23: three of the last two", x -> x.copy(0, 3, 1, 2, 1, 0, 3), INDEX);
@@ -551,7 +566,10 @@ public final class SheetEdgeTest {
         sheets.refusedSheet("23: none to the least", x -> x.copy(0, 0, 0, 0, 0, LEAST, 0), INDEX);
     }
 
-    /** Promise 23: "n numbers of a ROW, from i on, come to a ROW": none, up to the end of the ROWS and not beyond it. */
+    /**
+     * Promise 23: "n numbers of a ROW, from i on, come to a ROW": none, up to the end of the ROWS and not beyond
+     * it.
+     */
     private static void copyNone() {
         ofBytes.ends("23: none from 0", x -> x.copy(0, 3, 0, 2, 1, 0, 0), 0, 0);
         ofBytes.ends("23: none from the end", x -> x.copy(0, 3, 3, 2, 1, 0, 0), 0, 0);
@@ -567,7 +585,10 @@ public final class SheetEdgeTest {
         ofBytes.refusedSheet("23: none to -1", x -> x.copy(0, 3, 0, 2, 1, -1, 0), INDEX);
     }
 
-    /** Promise 23: "n numbers of a ROW, from i on, come to a ROW of another SHEET (or the same), from j on": all that fit. */
+    /**
+     * Promise 23: "n numbers of a ROW, from i on, come to a ROW of another SHEET (or the same), from j on": all
+     * that fit.
+     */
     private static void copyAll() {
         OpenGrounds x = new OpenGrounds();
         twoOfBytes(x);
@@ -589,7 +610,10 @@ public final class SheetEdgeTest {
         rowTells("23: forty are there", y, 1, 3, ends);
     }
 
-    /** Promise 23: "to a ROW of another SHEET (or the same)": from ROW to ROW of one, and what is put later stays apart. */
+    /**
+     * Promise 23: "to a ROW of another SHEET (or the same)": from ROW to ROW of one, and what is put later stays
+     * apart.
+     */
     private static void copyOneSheet() {
         OpenGrounds x = played();
         due.is("23: to the ROW of forty", x.copy(0, 3, 0, 0, 0, 37, 3), 3);
